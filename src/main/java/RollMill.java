@@ -140,11 +140,11 @@ public final class RollMill {
     }
 
     public int segment(int thickness, int h) {
-        if (coil.many >= SEGMENTS_MOST || !isThickness(thickness) || !isHardness(h)) {
-            return NONE;
+        int many = coil.addSegment(thickness, h);
+        if (many != NONE) {
+            latest.forget();
         }
-        latest.forget();
-        return coil.addSegment(thickness, h);
+        return many;
     }
 
     public int run(int aim) throws IllegalArgumentException {
@@ -267,10 +267,6 @@ public final class RollMill {
     }
 
     public int order(int width, int thickness, int ticks, int due) {
-        if (orders.many >= ORDERS_MOST || !within(width, 1, 9999) || !isThickness(thickness)
-                || !within(ticks, 1, 99) || !within(due, 0, 999)) {
-            return NONE;
-        }
         return orders.addOrder(width, thickness, ticks, due);
     }
 
@@ -294,10 +290,6 @@ public final class RollMill {
     }
 
     public int reading(int coil, int place, int thickness) {
-        if (readings.many >= READINGS_MOST || !within(coil, 0, COILS - 1)
-                || !within(place, 0, PLACES - 1) || !isThickness(thickness)) {
-            return NONE;
-        }
         return readings.addReading(coil, place, thickness);
     }
 
@@ -1090,7 +1082,7 @@ public final class RollMill {
         private int many;
 
         int addSegment(int thickness, int hardness) {
-            if (many >= SEGMENTS_MOST) {
+            if (many >= SEGMENTS_MOST || !isThickness(thickness) || !isHardness(hardness)) {
                 return NONE;
             }
             thicknesses[many] = thickness;
@@ -1420,7 +1412,8 @@ public final class RollMill {
         private int keptMany;
 
         int addOrder(int width, int thickness, int takes, int due) {
-            if (many >= ORDERS_MOST) {
+            if (many >= ORDERS_MOST || !within(width, 1, 9999) || !isThickness(thickness)
+                    || !within(takes, 1, 99) || !within(due, 0, 999)) {
                 return NONE;
             }
             widths[many] = width;
@@ -1542,7 +1535,8 @@ public final class RollMill {
         private final int[] recalled = new int[PLACES];
 
         int addReading(int coil, int place, int thickness) {
-            if (many >= READINGS_MOST) {
+            if (many >= READINGS_MOST || !within(coil, 0, COILS - 1)
+                    || !within(place, 0, PLACES - 1) || !isThickness(thickness)) {
                 return NONE;
             }
             coils[many] = coil;

@@ -6,6 +6,8 @@ public final class PlanTest {
         passes();
         plans();
         plansOfOneStand();
+        plansOfWornRolls();
+        plansOfAllThatIsTold();
         planKept();
         tiesOfPlans();
         randomPlans();
@@ -91,6 +93,54 @@ public final class PlanTest {
         bare.pass(1);
         Check.same("down to 1", bare.plan(60_000, 99, 1), 0);
         Check.same("the greatest gap for it", bare.planned(0, 2), 1);
+    }
+
+    private static void plansOfWornRolls() {
+        RollMill mill = new RollMill();
+        mill.stand(166, 9_999_999, 0, 60_000, 1, 1, 100, 0);
+        mill.point(1, 9990);
+        mill.gap(0, 0);
+        for (int i = 0; i < 40; i++) {
+            mill.segment(60_000, 10);
+        }
+        mill.run(60_000);
+        int worn = mill.standOf(0, 1) / 1000;
+        Check.holds("worn by many whole ones", worn > 500);
+        mill.pass(50_000);
+        Check.same("9990 for each", mill.plan(50_010, 10, 50_000), 99_900);
+        Check.same("602 for the stretch, and the wear", mill.planned(0, 2), 49_398 - worn);
+        mill.pass(worn + 602);
+        mill.pass(worn + 601);
+        Check.same("just at gap 0", mill.plan(worn + 612, 10, worn + 602), 99_900);
+        Check.same("its gap", mill.planned(0, 2), 0);
+        Check.none("no gap for less", mill.plan(worn + 611, 10, worn + 601));
+        Check.same("open by the wear", mill.plan(worn, 10, worn), 0);
+        Check.same("the greatest gap", mill.planned(0, 2), 60_000);
+    }
+
+    private static void plansOfAllThatIsTold() {
+        RollMill mill = new RollMill();
+        for (int i = 0; i < 5; i++) {
+            mill.stand(999, 9_999_999, 0, 60_000, 1, 1, 100, 0);
+        }
+        mill.point(100, 1000);
+        for (int i = 12; i >= 1; i--) {
+            Check.same("pass", mill.pass(100 * i), 13 - i);
+        }
+        int[] outs = {1250, 1000, 700, 400, 100};
+        Check.same("1250 in five, by told ones: not without 300", mill.plan(1250, 10, 100), 3000);
+        for (int s = 0; s < 5; s++) {
+            Check.same("the sums are alike: as late as may be", mill.planned(s, 0), outs[s]);
+        }
+        Check.same("none less", mill.plan(1250, 10, 1200), 500);
+        Check.same("at last", mill.planned(4, 0) + mill.planned(3, 0), 2450);
+        RollMill tight = new RollMill();
+        tight.stand(1, 1, 0, 0, 1, 1, 100, 0);
+        tight.pass(1);
+        tight.pass(2);
+        Check.same("a gap of 0 gives 1", tight.plan(5, 5, 1), 0);
+        Check.same("its gap", tight.planned(0, 2), 0);
+        Check.none("but not 2", tight.plan(5, 5, 2));
     }
 
     private static void planKept() {
@@ -181,7 +231,7 @@ public final class PlanTest {
         int[] all = new int[12];
         System.arraycopy(p, 0, all, 0, p.length);
         return mill.fits(0, many, places(all[0], all[1], all[2]), places(all[3], all[4], all[5]),
-                places(all[6], all[7], all[8]), places(all[9]), e, x, y);
+                places(all[6], all[7], all[8]), places(all[9], all[10], all[11]), e, x, y);
     }
 
     private static RollMill turning(int turn) {
@@ -195,6 +245,8 @@ public final class PlanTest {
         Check.holds("each turn", fitsAll(mill, 3, new int[] {100, 600, 1100}, 0, 7, 7));
         Check.holds("not 1 off", !fitsAll(mill, 3, new int[] {100, 600, 1101}, 0, 7, 7));
         Check.holds("1 off, but within it", fitsAll(mill, 3, new int[] {100, 599, 1101}, 1, 7, 7));
+        Check.holds("short of the second turn", !fitsAll(mill, 2, new int[] {0, 999}, 0, 7, 7));
+        Check.holds("short of it, but within it", fitsAll(mill, 2, new int[] {0, 999}, 1, 7, 7));
         Check.holds("turns may be left out", fitsAll(mill, 2, new int[] {0, 99_500}, 0, 7, 7));
         Check.holds("longer behind thinner ones", !fitsAll(mill, 2, new int[] {0, 500}, 499, 2000, 1000));
         Check.holds("just as near", fitsAll(mill, 2, new int[] {0, 500}, 500, 2000, 1000));

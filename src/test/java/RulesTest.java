@@ -16,6 +16,7 @@ public final class RulesTest {
         worthOfRandomExpressions();
         valuesOfATick();
         clausesInOrder();
+        rulesOverAndOver();
         Check.end("RulesTest");
     }
 
@@ -337,6 +338,36 @@ public final class RulesTest {
         mill.run(7);
         Check.same("pull behind stand 0, it bit", mill.standOf(0, 0), 3000);
         Check.same("all 0 of stand 1, it bit not", mill.standOf(1, 0), 50);
+        RollMill rested = new RollMill();
+        rested.stand(10, 9_999_999, 0, 60_000, 60_000, 10, 100, 0);
+        rested.stand(10, 9_999_999, 0, 60_000, 60_000, 30, 100, 0);
+        rested.point(1, 1000);
+        rested.segment(1000, 5);
+        rested.gap(0, 0);
+        Check.rules(rested, "stand 0 gap 50+in+out*2+press*3+hard*4+pull*5 unless tick=0;");
+        rested.run(5);
+        Check.holds("stand 0 pressed", rested.ran(2) > 0);
+        Check.same("all 0 of stand 0, when it bites no more", rested.standOf(0, 0), 50);
+    }
+
+    private static void rulesOverAndOver() {
+        RollMill mill = mill();
+        mill.segment(1000, 5);
+        mill.segment(1000, 5);
+        String sum = "1+1+1+1+1+1+1+1+1+1+1+1+1+1+1+1+1+1+1+1";
+        for (int i = 0; i < 20; i++) {
+            Check.same("rules", Check.rules(mill, "drift 50; late 1; stand 0 gap " + sum + "+" + i + ";"), 0);
+            Check.same("a fault", Check.rules(mill, "late 9; drift 7; stand 1 gap 77; tear 0; loop 0; stand 0 gap 5"), 1);
+            mill.run(5);
+            Check.same("gap", mill.standOf(0, 0), 20 + i);
+            Check.same("gap without a clause", mill.standOf(1, 0), 60_000);
+            Check.same("gauge", mill.gauge(2), 1010);
+            Check.same("none", Check.rules(mill, ""), 0);
+            mill.gap(0, 60_000);
+            mill.run(5);
+            Check.same("gap", mill.standOf(0, 0), 60_000);
+            Check.same("gauge", mill.gauge(2), 1000);
+        }
     }
 
     private static void clausesInOrder() {

@@ -10,6 +10,9 @@ public final class RunTest {
         brokenAtTheFirst();
         tornRun();
         tornAtTheFirstPull();
+        pullsAtFirst();
+        pullsWithoutRules();
+        pullOfThinStrip();
         loopedRun();
         gauge();
         lost();
@@ -50,6 +53,10 @@ public final class RunTest {
         emptyRun(mill, 0);
         Check.same("pull of it", mill.pull(0), 0);
         Check.same("its gap stays", mill.standOf(0, 0), 60_000);
+        addStand(mill, 10, 0);
+        addStand(mill, 10, 0);
+        Check.same("run of three stands without segments", mill.run(60_000), 0);
+        Check.same("no ticks", mill.ran(0), 0);
     }
 
     private static void emptyRun(RollMill mill, int segments) {
@@ -188,6 +195,65 @@ public final class RunTest {
         Check.same("behind stand 0", both.ran(1), 0);
         Check.same("in tick 2", both.ran(0), 3);
         Check.same("what would have torn", both.pull(1), 994);
+    }
+
+    private static void pullsAtFirst() {
+        RollMill mill = new RollMill();
+        mill.stand(999, 1, 0, 60_000, 60_000, 10, 100, 0);
+        mill.stand(999, 1, 0, 60_000, 60_000, 20, 100, 0);
+        mill.point(1, 9000);
+        mill.segment(1000, 10);
+        mill.segment(1000, 10);
+        mill.segment(1000, 10);
+        Check.rules(mill, "tear 19;");
+        Check.same("torn", mill.run(1), 2);
+        Check.same("with a pull", mill.pull(0), 20);
+        mill.gap(0, 0);
+        Check.same("broken in tick 0", mill.run(1), 1);
+        Check.same("pulls are 0 at first", mill.pull(0), 0);
+        mill.gap(0, 60_000);
+        Check.same("torn", mill.run(1), 2);
+        mill.coil();
+        Check.same("done at once", mill.run(1), 0);
+        Check.same("pulls are 0 at first", mill.pull(0), 0);
+    }
+
+    private static void pullsWithoutRules() {
+        int[] thicknesses = {40_000, 40_002, 39_999};
+        int[] speeds = {499, 499, 999};
+        int[] due = {2, 0, 0};
+        for (int i = 0; i < 3; i++) {
+            RollMill mill = new RollMill();
+            addStand(mill, speeds[i], 0);
+            addStand(mill, 1498 - speeds[i], 0);
+            for (int segment = 0; segment < 6; segment++) {
+                mill.segment(segment < 5 ? 40_000 : thicknesses[i], 1);
+            }
+            Check.same("above 99999, or not", mill.run(1), due[i]);
+            Check.rules(mill, "tear 0;loop 0;");
+            Check.same("with rules", mill.run(1), i == 2 ? 3 : 2);
+            Check.rules(mill, "");
+            Check.same("without again", mill.run(1), due[i]);
+        }
+        RollMill mill = new RollMill();
+        addStand(mill, 999, 0);
+        addStand(mill, 499, 0);
+        for (int segment = 0; segment < 6; segment++) {
+            mill.segment(40_000, 1);
+        }
+        Check.same("below 0 less 99999", mill.run(1), 3);
+        Check.same("by one", mill.pull(0), -100_000);
+    }
+
+    private static void pullOfThinStrip() {
+        RollMill mill = new RollMill();
+        addStand(mill, 10, 0);
+        addStand(mill, 10, 0);
+        mill.segment(60_000, 1);
+        mill.segment(1, 1);
+        Check.rules(mill, "tear 598;");
+        Check.same("a strip of 1 is bitten, too", mill.run(1), 2);
+        Check.same("its pull", mill.pull(0), (600_000 - 10) / 1000);
     }
 
     private static void loopedRun() {

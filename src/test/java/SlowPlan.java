@@ -18,7 +18,7 @@ final class SlowPlan {
     private final int[] gap;
 
     SlowPlan(Random random) {
-        stands = 1 + random.nextInt(4);
+        stands = 1 + random.nextInt(5);
         told = new int[stands][];
         for (int s = 0; s < stands; s++) {
             int low = random.nextInt(30);

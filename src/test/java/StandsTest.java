@@ -78,9 +78,10 @@ public final class StandsTest {
         }
         Check.none("draft as ahead", mill.point(90, 901));
         Check.none("press as ahead", mill.point(91, 900));
-        Check.same("the tenth", mill.point(60_000, 99_999), 10);
+        Check.same("the tenth", mill.point(91, 901), 10);
         Check.none("the eleventh", mill.point(60_000, 99_999));
         Check.same("points", mill.count(2), 10);
+        Check.same("the greatest point", new RollMill().point(60_000, 99_999), 1);
     }
 
     private static void pressOnTheLines() {
