@@ -234,6 +234,8 @@ public final class RunTest {
             Check.same("with rules", mill.run(1), i == 2 ? 3 : 2);
             Check.rules(mill, "");
             Check.same("without again", mill.run(1), due[i]);
+            Check.rules(mill, "");
+            Check.same("once more without", mill.run(1), due[i]);
         }
         RollMill mill = new RollMill();
         addStand(mill, 999, 0);
@@ -294,6 +296,21 @@ public final class RunTest {
         }
         Check.noSuch("gauge 5", () -> mill.gauge(5));
         Check.noSuch("gauge -1", () -> mill.gauge(-1));
+        Check.rules(mill, "");
+        Check.rules(mill, "");
+        for (int i = 4; i < 40; i++) {
+            mill.segment(1000, 5);
+        }
+        mill.run(1000);
+        Check.same("no drift without rules", mill.gauge(40), 1000);
+        Check.rules(mill, "drift 1;");
+        mill.run(1000);
+        Check.same("a little drift", mill.gauge(40), 1004);
+        Check.same("cut down", mill.gauge(39), 1003);
+        mill.coil();
+        for (int i = 0; i < 4; i++) {
+            mill.segment(1000 + i, 5);
+        }
         Check.rules(mill, "late 9;");
         mill.run(1000);
         Check.same("too late", mill.gauge(4), 0);
