@@ -1402,12 +1402,16 @@ public final class RollMill {
         private static final int CHANGE_COIN = 25;
         private static final int CHANGE_TICKS = 5;
         private static final int WIDER_COIN = 40;
+        private static final int ROWS_MOST = (1 << ORDERS_MOST) * ORDERS_MOST;
 
         private final int[] widths = new int[ORDERS_MOST];
         private final int[] thicknesses = new int[ORDERS_MOST];
         private final int[] ticks = new int[ORDERS_MOST];
         private final int[] dues = new int[ORDERS_MOST];
         private int many;
+        /** The best rows of each set of orders with each last one: with so many changes, with one more. */
+        private long[] rows = new long[ROWS_MOST];
+        private long[] rowsChanged = new long[ROWS_MOST];
         private long kept;
         private int keptMany;
 
@@ -1452,50 +1456,56 @@ public final class RollMill {
          * agree in these and in the last order only the best one can go on to the best row.
          */
         private long bestRow() {
-            long[] best = new long[(1 << many) * many * many];
-            Arrays.fill(best, Long.MAX_VALUE);
+            Arrays.fill(rows, Long.MAX_VALUE);
             for (int j = 0; j < many; j++) {
-                best[indexOf(1 << j, j, 0)] = lateCoin(j, ticks[j]) + ((long) j << orderShift(0));
+                rows[indexOf(1 << j, j)] = lateCoin(j, ticks[j]) + ((long) j << orderShift(0));
             }
             long found = Long.MAX_VALUE;
-            for (int set = 1; set < 1 << many; set++) {
-                for (int last = 0; last < many; last++) {
-                    for (int changes = 0; changes < many; changes++) {
-                        long row = best[indexOf(set, last, changes)];
-                        if (row == Long.MAX_VALUE) {
-                            continue;
-                        }
-                        if (set == (1 << many) - 1) {
-                            found = Math.min(found, row);
-                        } else {
-                            addNext(best, set, last, changes);
-                        }
-                    }
-                }
+            for (int changes = 0; changes < many; changes++) {
+                Arrays.fill(rowsChanged, Long.MAX_VALUE);
+                found = Math.min(found, bestOfAll(changes));
+                long[] done = rows;
+                rows = rowsChanged;
+                rowsChanged = done;
             }
             return found;
         }
 
-        private int indexOf(int set, int last, int changes) {
-            return (set * many + last) * many + changes;
+        /** The best row of all orders with so many changes; on the way all with one more begin. */
+        private long bestOfAll(int changes) {
+            int all = (1 << many) - 1;
+            for (int set = 1; set < all; set++) {
+                int ended = endOf(set, changes);
+                for (int last = 0; last < many; last++) {
+                    if (rows[indexOf(set, last)] != Long.MAX_VALUE) {
+                        addNext(set, last, ended);
+                    }
+                }
+            }
+            long found = Long.MAX_VALUE;
+            for (int last = 0; last < many; last++) {
+                found = Math.min(found, rows[indexOf(all, last)]);
+            }
+            return found;
         }
 
-        private void addNext(long[] best, int set, int last, int changes) {
+        private static int indexOf(int set, int last) {
+            return set * ORDERS_MOST + last;
+        }
+
+        private void addNext(int set, int last, int ended) {
             int place = Integer.bitCount(set);
-            int ended = endOf(set, changes);
-            long row = best[indexOf(set, last, changes)];
+            long row = rows[indexOf(set, last)];
+            long change = ((long) CHANGE_COIN << COIN_SHIFT) + (1L << CHANGES_SHIFT) + (1L << changeShift(place));
             for (int j = 0; j < many; j++) {
                 if ((set & 1 << j) != 0) {
                     continue;
                 }
                 long longer = row + ((long) j << orderShift(place));
                 int ends = ended + ticks[j];
-                int at = indexOf(set | 1 << j, j, changes);
-                best[at] = Math.min(best[at], longer + besideCoin(last, j) + lateCoin(j, ends));
-                if (changes + 1 < many) {
-                    long change = ((long) CHANGE_COIN << COIN_SHIFT) + (1L << CHANGES_SHIFT) + (1L << changeShift(place));
-                    best[at + 1] = Math.min(best[at + 1], longer + change + lateCoin(j, ends + CHANGE_TICKS));
-                }
+                int at = indexOf(set | 1 << j, j);
+                rows[at] = Math.min(rows[at], longer + besideCoin(last, j) + lateCoin(j, ends));
+                rowsChanged[at] = Math.min(rowsChanged[at], longer + change + lateCoin(j, ends + CHANGE_TICKS));
             }
         }
 
