@@ -34,6 +34,10 @@ final class Check {
         holds(what + " throws IllegalArgumentException", thrownBy(call) == IllegalArgumentException.class);
     }
 
+    static void quiet(String what, LongSupplier call) {
+        holds(what + " throws nothing", thrownBy(call) == null);
+    }
+
     private static Class<?> thrownBy(LongSupplier call) {
         try {
             call.getAsLong();
