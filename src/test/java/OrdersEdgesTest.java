@@ -15,6 +15,8 @@ public final class OrdersEdgesTest {
         fewestChanges();
         firstAsARow();
         changesAsLateAsMayBe();
+        changesOfNine();
+        eachOnce();
         dearestRow();
         rowThatIsKept();
         rowedEdges();
@@ -149,6 +151,35 @@ public final class OrdersEdgesTest {
         best("three of three places", orders(four), 75, 0, 101, 102, 103);
         int[][] first = {{5, 1, 1, 1}, {5, 2601, 1, 7}, {5, 5101, 93, 100}};
         best("only at the first place", orders(first), 50, 0, 101, 2);
+    }
+
+    /** Nine with a change ahead of each but the first, of some, of none. */
+    private static void changesOfNine() {
+        int[][] far = new int[9][];
+        int[][] two = new int[9][];
+        int[][] last = new int[9][];
+        for (int i = 0; i < 9; i++) {
+            far[i] = new int[] {5, 1 + 6000 * i, 1, 999};
+            two[i] = new int[] {5, 1 + 50_000 * (i % 2), 1, 999};
+            last[i] = new int[] {5, i == 7 ? 50_000 : 1, 1, 999};
+        }
+        best("ahead of each", orders(far), 200, 0, 101, 102, 103, 104, 105, 106, 107, 108);
+        best("ahead of one, an odd one last", orders(two), 25, 0, 2, 4, 6, 8, 101, 3, 5, 7);
+        best("ahead of the last", orders(last), 25, 0, 1, 2, 3, 4, 5, 6, 8, 107);
+        last[0] = new int[] {5, 30_000, 1, 1};
+        best("ahead of the second and the last", orders(last), 50, 0, 101, 2, 3, 4, 5, 6, 8, 107);
+    }
+
+    /** A ROW of all of them: each one once, though a second time between two others would spare a coin. */
+    private static void eachOnce() {
+        best("61 behind 240 costs 1, by way of 150 nothing",
+                orders(new int[] {5, 60, 1, 1}, new int[] {5, 150, 1, 999}, new int[] {5, 240, 9, 11}, new int[] {5, 61, 99, 110}), 1, 0, 1, 2, 3);
+        RollMill mill = Mills.full();
+        int met = 0;
+        for (int i = 0; i < 9; i++) {
+            met |= 1 << mill.rowed(i) % 100;
+        }
+        Check.same("all nine", met, 511);
     }
 
     /** The coin of nine orders that are all late. */

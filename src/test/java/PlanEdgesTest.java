@@ -12,21 +12,27 @@ public final class PlanEdgesTest {
         noPlan();
         planKeptStays();
         outInOrTold();
+        twelveAndIn();
         noneGreaterThanAhead();
         pressNotAboveMost();
         hardnessOfAPlan();
         gapFromLowToHigh();
         gapOpen();
         gapOfThinnest();
+        gapByItsWear();
+        onlyGapByItsWear();
+        stiffnessOfAPlan();
         bestOfLikePlans();
         plannedEdges();
         manyMarks();
+        elevenMarks();
         placesAsTold();
         marksNumbers();
         fromOneTurnOn();
         exactly();
         slicesNumbers();
         bendEdges();
+        bentToLeast0();
         waveEdges();
         Check.end("PlanEdgesTest");
     }
@@ -123,6 +129,24 @@ public final class PlanEdgesTest {
         Check.same("told", mill.plan(500, 10, 499), 0);
         Check.same("in itself, and told", mill.plan(499, 10, 499), 0);
         Check.same("it goes through all", mill.planned(0, 0) + mill.planned(1, 0) + mill.planned(2, 0), 3 * 499);
+    }
+
+    /** Twelve THICKNESSES, told in any order, and what goes in beside them. */
+    private static void twelveAndIn() {
+        RollMill mill = line(5, FREE, 0, 60_000);
+        mill.point(100, 1000);
+        int[] told = {700, 1200, 100, 900, 1100, 300, 600, 1000, 200, 800, 400, 500};
+        passes(mill, told);
+        int[] outs = {1250, 1000, 700, 400, 100};
+        Check.same("from 1250 to 100 in five", mill.plan(1250, 10, 100), 3000);
+        for (int s = 0; s < 5; s++) {
+            Check.same("out of stand " + s, mill.planned(s, 0), outs[s]);
+        }
+        for (int out : told) {
+            Check.holds("to each of them", mill.plan(1250, 10, out) > 0);
+            Check.same("at last", mill.planned(4, 0), out);
+            Check.same("from each to itself", mill.plan(out, 10, out), 0);
+        }
     }
 
     /** None greater than that ahead. */
@@ -235,6 +259,61 @@ public final class PlanEdgesTest {
         Check.none("nothing stays 2", flat.plan(2, 10, 2));
     }
 
+    /** Its gap by its WEAR as it is: 999 is no unit, 1000 is one. */
+    private static void gapByItsWear() {
+        for (int segments = 0; segments <= 2; segments++) {
+            RollMill mill = new RollMill();
+            mill.stand(999, FREE, 0, 60_000, 1, 1, 100, 0);
+            mill.point(1, 100);
+            mill.point(2, 99_900);
+            mill.gap(0, 0);
+            for (int i = 0; i < segments; i++) {
+                mill.segment(150 - 100 * i, 10);
+            }
+            mill.run(1);
+            int worn = segments == 2 ? 1 : 0;
+            Check.same("wear", mill.standOf(0, 1), segments == 0 ? 0 : 998 + segments);
+            passes(mill, 200, 100);
+            Check.same("a press of 99900", mill.plan(202, 10, 200), 99_900);
+            Check.same("its gap", mill.planned(0, 2), 100 - worn);
+            Check.same("100 units of stretch, and none left", mill.plan(102, 10, 100), worn == 0 ? 99_900 : -1);
+            mill.change(0);
+            Check.same("by a new roll there is a gap", mill.plan(102, 10, 100), 99_900);
+            Check.same("its gap", mill.planned(0, 2), 0);
+        }
+    }
+
+    /** Where HIGH is the only gap, WEAR tells whether just that goes OUT. */
+    private static void onlyGapByItsWear() {
+        for (int segments = 1; segments <= 2; segments++) {
+            RollMill mill = new RollMill();
+            mill.stand(999, FREE, 0, 0, 1, 1, 100, 0);
+            mill.point(1, 100);
+            mill.point(2, 99_900);
+            for (int i = 0; i < segments; i++) {
+                mill.segment(150 - 100 * i, 10);
+            }
+            mill.run(1);
+            passes(mill, 1);
+            Check.same("a wear of 1000 holds 2 as it is", mill.plan(2, 10, 2), segments == 2 ? 0 : -1);
+            Check.same("a wear of 999 presses it to 1", mill.plan(2, 10, 1), segments == 2 ? -1 : 100);
+        }
+    }
+
+    /** Stiffness 1 to 999. */
+    private static void stiffnessOfAPlan() {
+        int[] stiffnesses = {1, 2, 39, 40, 41, 999};
+        int[] gaps = {20, 40, 58, 59, 59, 59};
+        for (int i = 0; i < stiffnesses.length; i++) {
+            RollMill mill = new RollMill();
+            mill.stand(stiffnesses[i], FREE, 0, 60_000, 1, 1, 100, 0);
+            mill.point(1, 1);
+            passes(mill, 60);
+            Check.same("a press of 40", mill.plan(100, 10, 60), 40);
+            Check.same("stretched by stiffness " + stiffnesses[i], mill.planned(0, 2), gaps[i]);
+        }
+    }
+
     /** Of like ones the least sum of presses, of like ones the greater one ahead. */
     private static void bestOfLikePlans() {
         RollMill mill = line(2, FREE, 0, 60_000);
@@ -251,6 +330,12 @@ public final class PlanEdgesTest {
         passes(sums, 995, 990, 900, 800);
         Check.same("1001 for 200 at once: at most 1000 by any other", sums.plan(1000, 10, 800), 1000);
         Check.same("500 and 1000 is less in all than 1000 and 1000", sums.planned(0, 0), 995);
+        RollMill later = line(2, FREE, 0, 60_000);
+        later.point(10, 1000);
+        later.point(200, 1001);
+        passes(later, 990, 900, 805, 800);
+        Check.same("at most 1000 by each", later.plan(1000, 10, 800), 1000);
+        Check.same("1000 and 500 is less in all, though the first one goes farther", later.planned(0, 0), 805);
         RollMill like = line(3, FREE, 0, 60_000);
         passes(like, 900, 800);
         Check.same("all for nothing", like.plan(1000, 10, 800), 0);
@@ -312,6 +397,16 @@ public final class PlanEdgesTest {
         Twins.asks("other bits of d don't count", Mills::full, mill -> mill.fits(0, 10, a, b, c, -1L << 17 | 4500, 0, 1, 1) ? 1 : 0, 1);
         Twins.asks("other bits of a, b, c don't count", Mills::full,
                 mill -> mill.fits(0, 9, a | -1L << 51, b | -1L << 51, c | -1L << 51, -1, 0, 1, 1) ? 1 : 0, 1);
+    }
+
+    /** An eleventh one would have its place in d. */
+    private static void elevenMarks() {
+        long d = three(4500, 5000, 5500);
+        Twins.illegal("eleven marks that fit", Mills::full,
+                mill -> mill.fits(0, 11, three(0, 500, 1000), three(1500, 2000, 2500), three(3000, 3500, 4000), d, 0, 1, 1) ? 1 : 0);
+        Twins.illegal("twelve marks that fit", Mills::full,
+                mill -> mill.fits(0, 12, three(0, 500, 1000), three(1500, 2000, 2500), three(3000, 3500, 4000), d, 0, 1, 1) ? 1 : 0);
+        Twins.illegal("one mark", Mills::full, mill -> mill.fits(0, 1, three(0, 500, 1000), 0, 0, 0, 0, 1, 1) ? 1 : 0);
     }
 
     /** IllegalArgumentException: places are not as told (0 to 99,999, rising). */
@@ -409,6 +504,20 @@ public final class PlanEdgesTest {
         Check.same("at least 0, and the next 1", wavesOf(100, -999, 0), 27);
         Check.same("0 everywhere", wavesOf(0, -999, 0), 0);
         Check.same("399, 99 and 0: 1000 by 99 to 5000 by 997, twice as much", wavesOf(0, 999, 1000), 14);
+    }
+
+    /** At least 0: what is pressed to a half at a gap of 0 would be more at 1, less at -1. */
+    private static void bentToLeast0() {
+        RollMill mill = turning();
+        mill.point(1, 100);
+        mill.gap(0, 10);
+        Check.same("1000 to 500, and not to 501", mill.waves(0, 1000, 1000, 2000, 1000, 1000, 10, -999, 1), 27);
+        Check.same("by no more", mill.waves(0, 1000, 1000, 2000, 1000, 1000, 10, -999, 2), 0);
+        Check.same("1001 to 501, and not to 500", mill.waves(0, 1001, 1001, 1001, 1001, 1001, 10, -999, 2), 0);
+        Check.same("by less", mill.waves(0, 1001, 1001, 1001, 1001, 1001, 10, -999, 1), 27);
+        mill.gap(0, 0);
+        Check.same("at a gap of 0 a bend down is none", mill.waves(0, 1001, 1000, 999, 998, 997, 10, -999, 0),
+                mill.waves(0, 1001, 1000, 999, 998, 997, 10, 0, 0));
     }
 
     /** Greater than that of all five together by more than n in 1000 of the latter (exactly). */

@@ -14,6 +14,7 @@ public final class ReadingsEdgesTest {
         knownNumbers();
         nothingKnown();
         allPlacesKnown();
+        leastThickness();
         offByMoreThanE();
         offAnyThickness();
         countEdges();
@@ -178,6 +179,21 @@ public final class ReadingsEdgesTest {
         mill.reading(9, 0, 59_999);
         Check.same("the least place", mill.known(9, 2, 60_000, 0, 0), 0);
         Check.same("two of them", mill.known(9, 3, 60_000, 0, 0), 2);
+    }
+
+    /** A READING of the least thickness counts as any. */
+    private static void leastThickness() {
+        RollMill mill = new RollMill();
+        mill.reading(3, 0, 500);
+        mill.reading(3, 0, 1);
+        mill.reading(3, 1, 1);
+        Check.same("both places", mill.known(3, 0, 0, 0, 0), 2);
+        Check.same("also if they are not off", mill.known(3, 0, 1, 0, 0), 2);
+        Check.same("1 and 1", mill.known(3, 1, 0, 0, 0), 2);
+        Check.same("off 3 by 2", mill.known(3, 2, 3, 1, 0), 0);
+        Check.same("both are off", mill.known(3, 3, 3, 1, 0), 2);
+        Check.none("just not off", mill.known(3, 2, 3, 2, 0));
+        Check.same("none is", mill.known(3, 3, 3, 2, 0), 0);
     }
 
     /** OFF a thickness by more than e. */

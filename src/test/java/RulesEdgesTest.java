@@ -35,6 +35,8 @@ public final class RulesEdgesTest {
         firstFaultCounts();
         whatWasToldStays();
         lastOneCounts();
+        withoutTearAndLoop();
+        eachByItself();
         wrapAround();
         whatHolds();
         Check.end("RulesEdgesTest");
@@ -441,6 +443,57 @@ public final class RulesEdgesTest {
         Check.same("without a clause it stays", mill.standOf(0, 0), 1500);
     }
 
+    /** Tear 99999, loop 99999 without, also behind rules with them. */
+    private static void withoutTearAndLoop() {
+        for (String ahead : new String[] {"", "tear 0;loop 0;", "tear 5;tear 9;loop 5;loop 9;", "loop 0;"}) {
+            RollMill mill = new RollMill();
+            mill.stand(999, 9_999_999, 0, 60_000, 60_000, 10, 100, 0);
+            mill.stand(999, 9_999_999, 0, 60_000, 60_000, 20, 100, 0);
+            mill.stand(999, 9_999_999, 0, 60_000, 60_000, 5, 100, 0);
+            for (int i = 0; i < 9; i++) {
+                mill.segment(1000, 5);
+            }
+            Check.same("told", Check.rules(mill, ahead), GOOD);
+            mill.run(1);
+            Check.same("told without", Check.rules(mill, "late 0;"), GOOD);
+            Check.same("done behind " + ahead, mill.run(1), 0);
+            Check.same("the last tear counts", Check.rules(mill, "tear 0;tear 99;loop 0;loop 999;"), GOOD);
+            Check.same("done", mill.run(1), 0);
+            Check.same("the last tear counts", Check.rules(mill, "tear 99;tear 0;loop 0;loop 999;"), GOOD);
+            Check.same("torn", mill.run(1), 2);
+            Check.same("the last loop counts", Check.rules(mill, "tear 99;loop 999;loop 0;"), GOOD);
+            Check.same("looped", mill.run(1), 3);
+        }
+    }
+
+    /** Each is by itself what it is without, whatever the others or rules told ahead are. */
+    private static void eachByItself() {
+        String all = "late 9;drift 99999;tear 0;loop 0;stand 0 gap 5;stand 1 gap 5;";
+        String[] texts = {"", "late 1;", "drift 10;", "tear 9;", "loop 9;"};
+        int[] ends = {0, 0, 0, 2, 0};
+        int[] backEnds = {0, 0, 0, 0, 3};
+        int[] gauges = {1000, 0, 1001, 0, 0};
+        for (int i = 0; i < texts.length; i++) {
+            for (int speed = 10; speed <= 30; speed += 20) {
+                RollMill mill = new RollMill();
+                mill.stand(999, 9_999_999, 0, 60_000, 60_000, 20, 100, 0);
+                mill.stand(999, 9_999_999, 0, 60_000, 60_000, speed, 100, 0);
+                mill.segment(1000, 5);
+                mill.segment(1000, 5);
+                for (int again = 0; again < 2; again++) {
+                    Check.same("all", Check.rules(mill, all), GOOD);
+                    Check.same("all", Check.rules(mill, all), GOOD);
+                    Check.same(texts[i], Check.rules(mill, texts[i]), GOOD);
+                    Check.same(texts[i] + " alone, speed " + speed, mill.run(1), speed == 30 ? ends[i] : backEnds[i]);
+                    if (i < 3) {
+                        Check.same(texts[i] + " alone: gauge", mill.gauge(1), gauges[i]);
+                    }
+                    Check.same("no clause: its gap stays", mill.standOf(0, 0) + mill.standOf(1, 0), 120_000);
+                }
+            }
+        }
+    }
+
     /** The gap that an expression wants, held within 0 and 60000. */
     private static int worth(String text) {
         RollMill mill = mill(1);
@@ -482,6 +535,17 @@ public final class RulesEdgesTest {
         Check.same("or of -1", worth("0-1 or 0"), 1);
         Check.same("or of 5 and 7", worth("5 or 7"), 1);
         Check.same("and of 5 and 7", worth("5 and 7"), 1);
+        for (int a = -2; a <= 2; a++) {
+            for (int b = -2; b <= 2; b++) {
+                String two = "(" + (a + 5) + "-5)";
+                String other = "(" + (b + 5) + "-5)";
+                Check.same(a + " and " + b, worth("7+(" + two + "and" + other + ")"), a != 0 && b != 0 ? 8 : 7);
+                Check.same(a + " or " + b, worth("7+(" + two + "or" + other + ")"), a != 0 || b != 0 ? 8 : 7);
+                Check.same(a + " < " + b, worth("7+(" + two + "<" + other + ")"), a < b ? 8 : 7);
+                Check.same(a + " = " + b, worth("7+(" + two + "=" + other + ")"), a == b ? 8 : 7);
+                Check.same("not " + a, worth("7+(not" + two + ")"), a == 0 ? 8 : 7);
+            }
+        }
         Check.same("one by itself stays", worth("((5))"), 5);
         Check.same("below, not as much", worth("(5<5)+(5<6)*10+(6<5)*100"), 10);
         Check.same("as much", worth("(5=5)+(5=6)*10+(6=5)*100"), 1);

@@ -28,6 +28,10 @@ public final class RunEdgesTest {
         firstPullCounts();
         gaugeLate();
         gaugeDrift();
+        valuesWithoutABite();
+        valuesOfTheRun();
+        latestRun();
+        pullsAtTheBeginning();
         screws();
         withinLowAndHigh();
         lengths();
@@ -423,6 +427,87 @@ public final class RunEdgesTest {
         Check.rules(mill, "stand 0 gap " + wanted + ";");
         mill.run(1);
         return mill.standOf(0, 0);
+    }
+
+    /** In, out, press: of its BITE in this TICK (0, if it didn't); hard: of the SEGMENT it BIT (0). */
+    private static void valuesWithoutABite() {
+        String[] values = {"in", "out", "press", "hard", "pull"};
+        for (int i = 0; i < values.length; i++) {
+            RollMill mill = new RollMill();
+            mill.stand(999, FREE, 0, 60_000, 60_000, 10, 100, 2);
+            mill.stand(999, FREE, 0, 60_000, 60_000, 10, 100, 2);
+            mill.point(100, 1000);
+            tell(mill, 1000);
+            mill.gap(0, 900);
+            Check.rules(mill, "stand 0 gap 50+" + values[i] + " unless tick=0;stand 1 gap 60+" + values[i] + " unless not tick=0;");
+            mill.run(1);
+            Check.same(values[i] + " of stand 0, when it bit no more", mill.standOf(0, 0), 50);
+            Check.same(values[i] + " of stand 1, ahead of its bite", mill.standOf(1, 0), 60);
+            mill.gap(0, 898);
+            mill.gap(1, 60_000);
+            Check.rules(mill, "stand 0 gap 50+" + values[i] + " unless not tick=0;");
+            mill.run(1);
+            int[] bitten = {1000, mill.out(0, 0), mill.ran(2), 10, 0};
+            Check.same(values[i] + " of stand 0 in its bite", mill.standOf(0, 0), 50 + bitten[i]);
+        }
+    }
+
+    /** Wear: WEAR by 1000, cut down, behind this TICK's BITE; tick: from 0 on; aim. */
+    private static void valuesOfTheRun() {
+        RollMill mill = new RollMill();
+        mill.stand(999, FREE, 0, 60_000, 60_000, 10, 100, 0);
+        mill.point(1, 100);
+        mill.point(2, 99_900);
+        mill.gap(0, 0);
+        tell(mill, 150);
+        Check.rules(mill, "stand 0 gap 7+wear;");
+        mill.run(1);
+        Check.same("a wear of 999", mill.standOf(0, 0), 7);
+        mill.gap(0, 0);
+        tell(mill, 50);
+        mill.run(1);
+        Check.same("a wear of 1000", mill.standOf(0, 0), 8);
+        for (int aim : new int[] {1, 60_000}) {
+            Check.rules(mill, "stand 0 gap aim-tick;");
+            mill.run(aim);
+            Check.same("the aim in tick 0", mill.standOf(0, 0), aim);
+        }
+    }
+
+    /** Of the latest RUN alone: nothing stays of the one ahead. */
+    private static void latestRun() {
+        RollMill mill = line(10, 20);
+        tell(mill, 1000, 1000, 1000);
+        for (int i = 0; i < 3; i++) {
+            Check.rules(mill, "");
+            Check.same("done", mill.run(1), 0);
+            Check.same("ticks", mill.ran(0), 4);
+            Check.none("no stand", mill.ran(1));
+            Check.same("came out", mill.ran(3), 3);
+            Check.same("lengths", mill.ran(4), 3000);
+            Check.rules(mill, "tear 9;");
+            Check.same("torn", mill.run(1), 2);
+            Check.same("ticks", mill.ran(0), 2);
+            Check.same("the stand", mill.ran(1), 0);
+            Check.same("came out", mill.ran(3), 1);
+            Check.same("lengths", mill.ran(4), 1000);
+            Check.none("not out this time", mill.out(1, 1));
+            Check.noSuch("no gauge this time", () -> mill.gauge(1));
+            Check.same("each PULL is 0 at the RUN's beginning", mill.pull(0), 10);
+        }
+    }
+
+    /** PULL: 0 at the RUN's beginning, also if the one ahead was torn. */
+    private static void pullsAtTheBeginning() {
+        RollMill mill = line(10, 20);
+        mill.point(1, 1000);
+        tell(mill, 1000, 1000);
+        Check.rules(mill, "tear 9;");
+        Check.same("torn", mill.run(1), 2);
+        Check.same("with a pull", mill.pull(0), 10);
+        mill.coil();
+        Check.same("done at once", mill.run(1), 0);
+        Check.same("no pull", mill.pull(0), 0);
     }
 
     /** It goes there as far as screws go in a tick. */
