@@ -172,8 +172,8 @@ public final class OrdersEdgesTest {
 
     /** A ROW of all of them: each one once, though a second time between two others would spare a coin. */
     private static void eachOnce() {
-        best("61 behind 240 costs 1, by way of 150 nothing",
-                orders(new int[] {5, 60, 1, 1}, new int[] {5, 150, 1, 999}, new int[] {5, 240, 9, 11}, new int[] {5, 61, 99, 110}), 1, 0, 1, 2, 3);
+        int[][] inTurn = {{5, 60, 1, 1}, {5, 240, 9, 11}, {5, 61, 99, 110}, {5, 150, 1, 999}};
+        best("180 and 179 cost 1, by way of 150 nothing", orders(inTurn), 1, 0, 1, 3, 2);
         RollMill mill = Mills.full();
         int met = 0;
         for (int i = 0; i < 9; i++) {

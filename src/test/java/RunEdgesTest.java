@@ -23,10 +23,12 @@ public final class RunEdgesTest {
         pullCutTowards0();
         pullIfBothBit();
         tearEdges();
+        tearOrLoopAlone();
         loopEdges();
         pullsWithoutRules();
         firstPullCounts();
         gaugeLate();
+        gaugeByOneAlone();
         gaugeDrift();
         valuesWithoutABite();
         valuesOfTheRun();
@@ -324,6 +326,24 @@ public final class RunEdgesTest {
         Check.same("a pull of 0 is not above 0, nor below", still.run(1), 0);
     }
 
+    /** 'Tear', 'late' and 'drift' tell nothing of 'loop', nor it of 'tear'. */
+    private static void tearOrLoopAlone() {
+        RollMill back = line(20, 10);
+        tell(back, alike(9, 1000));
+        RollMill forth = line(10, 20);
+        tell(forth, alike(9, 1000));
+        for (int number = 0; number <= 9; number++) {
+            for (String word : new String[] {"late ", "drift ", "tear "}) {
+                Check.rules(back, word + number + ";");
+                Check.same(word + number + " does not loop", back.run(1), 0);
+            }
+            for (String word : new String[] {"late ", "drift ", "loop "}) {
+                Check.rules(forth, word + number + ";");
+                Check.same(word + number + " does not tear", forth.run(1), 0);
+            }
+        }
+    }
+
     /** Below 0 less 'loop', it LOOPS. */
     private static void loopEdges() {
         for (int loop = 0; loop <= 21; loop++) {
@@ -396,6 +416,26 @@ public final class RunEdgesTest {
                     Check.same("late " + late + ", tick " + t, mill.gauge(t), segment < 0 ? 0 : 1000 + segment);
                 }
             }
+        }
+    }
+
+    /** No drift by 'late' alone, and none late by 'drift' alone. */
+    private static void gaugeByOneAlone() {
+        RollMill mill = line(10);
+        tell(mill, alike(40, 1000));
+        Check.rules(mill, "late 9;");
+        mill.run(1);
+        Check.same("late without drift", mill.gauge(39), 1000);
+        Check.same("but late", mill.gauge(8), 0);
+        Check.rules(mill, "drift 9;");
+        mill.run(1);
+        Check.same("drift without late", mill.gauge(0), 1000);
+        Check.same("but drift", mill.gauge(39), 1035);
+        for (String others : new String[] {"tear 30;", "loop 30;", "tear 9;loop 99999;"}) {
+            Check.rules(mill, others);
+            mill.run(1);
+            Check.same("neither by " + others, mill.gauge(39), 1000);
+            Check.same("neither by " + others, mill.gauge(0), 1000);
         }
     }
 
